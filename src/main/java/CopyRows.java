@@ -196,14 +196,13 @@ public final class CopyRows {
             return fail(NO_FIT);
         }
         code = DONE;
-        int moved = 0;
-        while (moved < n && code == DONE) {
+        for (int moved = 0; moved < n; moved++) {
             code = moveOne(from, i + moved, to, j + moved);
-            if (code == DONE) {
-                moved++;
+            if (code != DONE) {
+                return moved;
             }
         }
-        return moved;
+        return Math.max(n, 0);
     }
 
     public int copy(int place, int other) {
@@ -524,16 +523,17 @@ public final class CopyRows {
             return kind == from.kind || !isOfNumbers() && !from.isOfNumbers();
         }
 
-        /** How many of n ITEMS of another ROW, from i on, go in here before one does not fit. */
+        /** How many of n ITEMS of another ROW, from i on, go in here before one does not fit; they are there. */
         int countTaken(Row from, int i, int n) {
             if (isOfNumbers()) {
                 return n;
             }
-            int count = 0;
-            while (count < n && takes(from.parts[i + count])) {
-                count++;
+            for (int count = 0; count < n; count++) {
+                if (!takes(from.parts[i + count])) {
+                    return count;
+                }
             }
-            return count;
+            return n;
         }
 
         /** Moves n ITEMS that are there, have room here and fit: callers have looked. */

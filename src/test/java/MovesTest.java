@@ -37,12 +37,12 @@ public final class MovesTest {
 
     /** What is asked of the two ROWS ahead of all numbers, for both calls. */
     private static void ahead() {
-        Check c = new Check("ahead of anything");
-        for (int kind = 0; kind <= 5; kind++) {
-            c.x.make(kind, kind, 2);
-        }
-        c.x.lump(6);
         for (int x = 0; x <= 7; x++) {
+            Check c = new Check("ahead of anything");
+            for (int kind = 0; kind <= 5; kind++) {
+                c.x.make(kind, kind, 2);
+            }
+            c.x.lump(6);
             for (int y = 0; y <= 7; y++) {
                 int due = x == 7 || y == 7 ? 1 : x == 6 || y == 6 ? 2 : (x <= 1 || y <= 1) && x != y ? 2 : 0;
                 String which = "(" + x + ", .., " + y + ", ..";
