@@ -45,6 +45,7 @@ public final class PlacesTest {
         CopyRows x = c.x;
         x.make(3, 3, 1);
         x.make(4, 2, 1);
+        x.make(7, 1, 0);
         x.length(11);
         c.told("length", x.length(2), 2, 0);
         x.length(11);
@@ -63,6 +64,14 @@ public final class PlacesTest {
         c.told("move", x.move(2, 0, 2, 1, 1), 1, 0);
         x.length(11);
         c.told("loop", x.loop(2, 0, 2, 1, 1), 1, 0);
+        x.length(11);
+        c.told("loop of none", x.loop(2, 9, 2, 9, 0), 0, 0);
+        x.length(11);
+        c.told("loop of fewer than none", x.loop(2, 9, 2, 9, -1), 0, 0);
+        x.length(11);
+        c.told("move of none", x.move(2, 2, 2, 2, 0), 0, 0);
+        x.length(11);
+        c.told("update by none", x.update(2, 7, 2), 0, 0);
         x.length(11);
         c.told("copy", x.copy(6, 2), 2, 0);
         x.length(11);
