@@ -22,6 +22,10 @@ public final class PlacesTest {
         CopyRows other = new CopyRows();
         c.told("make(0, 1, 2)", c.x.make(0, 1, 2), 2, 0);
         c.due("kind(0) of another object", other.kind(0), CopyRows.NONE);
+        c.told("make(0, 1, -1)", c.x.make(0, 1, -1), 0, 4);
+        c.due("code() of another object", other.code(), 0);
+        c.due("kind(0) of a later object", new CopyRows().kind(0), CopyRows.NONE);
+        c.due("code() of a later object", new CopyRows().code(), 0);
     }
 
     private static void code() {
